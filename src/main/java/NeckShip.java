@@ -496,7 +496,6 @@ public final class NeckShip {
         // How spars lie to one another never changes, so it is found out once, as they come.
         final int[] over = new int[MOST];
         final int[] feetWithin = new int[MOST];
-        final int[] coverersOfFoot = new int[MOST];
         int count = 0;
         int up = 0;
 
@@ -528,7 +527,6 @@ public final class NeckShip {
         private void noteFootWithin(int coverer, int standing) {
             if (low(coverer) < foot[standing] && foot[standing] < high(coverer)) {
                 feetWithin[coverer] |= 1 << standing;
-                coverersOfFoot[standing] |= 1 << coverer;
             }
         }
 
@@ -594,13 +592,14 @@ public final class NeckShip {
         }
 
         /**
-         * The spar that the first order raises next; NONE. An order raises all, so a spar has to wait for
-         * those that cover its foot, as they could not rise after it. With that, what each waits for never
-         * changes and raising one bars no other: so the least that waits for none is right each time.
+         * The spar that the first order raises next; NONE. The least that may rise is right each time, as it
+         * takes no order away: its foot can bar only a spar that covers some length together with it. If that
+         * one has the greater number, it lies over this one and so is up already; if the lesser, this one
+         * lies over it, so that it can rise neither ahead of this one nor after it, and no order was left.
          */
         int nextOfOrder(int upThen, int raised) {
             for (int s = 0; s < count; s++) {
-                if (mayRise(s, upThen, raised) && (coverersOfFoot[s] & ~upThen) == 0) {
+                if (mayRise(s, upThen, raised)) {
                     return s;
                 }
             }
