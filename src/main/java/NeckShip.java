@@ -135,9 +135,6 @@ public final class NeckShip {
         if (!isWithin(hole, -BEYOND_HULL, measures[LENGTH] + BEYOND_HULL) || !isWithin(place, 1, spars.length[s])) {
             return OUTSIDE;
         }
-        if (threads.count >= Threads.MOST) {
-            return FULL;
-        }
         boolean behind = (hole - spars.foot[s]) * spars.way[s] < 0;
         return threads.add(hole, s, place, spars.foot[s], behind);
     }
@@ -503,6 +500,7 @@ public final class NeckShip {
             return s >= 0 && s < count;
         }
 
+        /** Its number; FULL. */
         int add(int itsKind, int itsFoot, int itsLength, int itsThick, int itsWay) {
             if (count >= MOST) {
                 return FULL;
@@ -624,6 +622,7 @@ public final class NeckShip {
             return t >= 0 && t < count;
         }
 
+        /** Its number; FULL. */
         int add(int itsHole, int itsSpar, int itsPlace, int itsFoot, boolean isBehind) {
             if (count >= MOST) {
                 return FULL;

@@ -131,6 +131,14 @@ public final class PromisesTest {
         due("a cut thread has its hole still", x.rule(0, 39), STATE);
         due("others are free", x.rule(1, 1), 10);
         due("unchanged", x.rule(0, 100), 40);
+        NeckShip y = begin("2 rule, the first hole");
+        y.spar(0, 0, 5, 1, 1);
+        y.thread(70, 0, 1);
+        due("below the hole", y.rule(0, 49), STATE);
+        due("at it", y.rule(0, 50), 50);
+        NeckShip z = begin("2 rule, no spars");
+        due("as short as can be", z.rule(0, 1), 50);
+        due("a foot at its end", z.spar(0, 1, 1, 1, 1), 0);
     }
 
     private static void spar() {
@@ -177,6 +185,13 @@ public final class PromisesTest {
         due("over", x.over(0, 1), 1);
         due("the third is not as told", x.plan(1, 2, 1, 3), OUTSIDE);
         due("none came", x.told(0), 2);
+        int[] outside = {3, 51, 61, 10, 0};
+        int[] asTold = {1, 20, 10, 2, 1};
+        for (int c = 0; c < 5; c++) {
+            x.put(1, 1 + c, outside[c]);
+            due("number " + c + " of five is not as told", x.plan(1, 2, 1, 1), OUTSIDE);
+            x.put(1, 1 + c, asTold[c]);
+        }
         x.rule(0, 51);
         due("now it is", x.plan(1, 2, 1, 3), 5);
         due("more", x.plan(1, 2, 1, 3), 8);
@@ -431,6 +446,33 @@ public final class PromisesTest {
         due("t beyond", x.cross(9, 0), UNKNOWN);
         due("u below", x.cross(0, -1), UNKNOWN);
         due("u beyond", x.cross(0, 9), UNKNOWN);
+        crossAtEnds();
+    }
+
+    /** An end of the one lies inside the other, from either side, whichever came first. */
+    private static void crossAtEnds() {
+        int[][] threads = {{10, 0, 20}, {0, 1, 10}, {20, 1, 10}};
+        for (int other = 1; other < 3; other++) {
+            NeckShip x = begin("12 cross, at an end");
+            x.spar(0, 10, 60, 1, 1);
+            x.spar(0, 10, 60, 1, 1);
+            int[] o = threads[other];
+            x.thread(10, 0, 20);
+            x.thread(o[0], o[1], o[2]);
+            x.thread(10, 0, 20);
+            due("ends on the earlier one", x.cross(0, 1), 0);
+            due("ends on the later one", x.cross(1, 2), 0);
+            due("as the other way", x.cross(1, 0) + x.cross(2, 1), 0);
+            due("the same line twice", x.cross(0, 2), 1);
+        }
+        NeckShip y = begin("12 cross, just");
+        y.spar(0, 1, 2, 1, 1);
+        y.spar(0, 0, 2, 1, 1);
+        y.thread(0, 0, 1);
+        y.thread(1, 1, 1);
+        y.thread(0, 0, 1);
+        due("in the middle", y.cross(0, 1), 1);
+        due("in the middle", y.cross(1, 2), 1);
     }
 
     private static void note(int[] crossing, int t, int u) {
@@ -460,6 +502,16 @@ public final class PromisesTest {
         y.cut(0);
         due("cut", y.lay(0), 1);
         due("the thread was cut", y.raise(0), STATE);
+        NeckShip z = begin("13 raise, one foot");
+        for (int s = 0; s < 4; s++) {
+            z.spar(0, 10, 5, 1, s < 2 ? 1 : -1);
+            z.thread(s < 2 ? 9 : 11, s, 1);
+        }
+        due("one lies over it", z.raise(0), STATE);
+        due("up", z.raise(1), 1);
+        due("a foot at its own foot is not within", z.raise(0), 2);
+        due("nor is it the other way", z.raise(3), 3);
+        due("nor so", z.raise(2), 4);
     }
 
     private static void lay() {
@@ -934,5 +986,23 @@ public final class PromisesTest {
         due("up", x.told(2), 1);
         due("held", x.told(3), 0);
         due("pairs", x.told(5), 0);
+        NeckShip y = begin("29 told, a full ship");
+        for (int s = 0; s < 10; s++) {
+            y.spar(0, 10, 60, 1, 1);
+        }
+        for (int t = 0; t < 16; t++) {
+            y.thread(0, t % 10, 60);
+        }
+        due("all threads in one line", y.told(5), 16 * 15 / 2);
+        due("no rig", y.rig(), NONE);
+        for (int s = 9; s >= 0; s--) {
+            due("raise", y.raise(s), 10 - s);
+        }
+        due("all held", y.told(3), 10);
+        y.cut(0);
+        due("held by another", y.told(3), 10);
+        due("pairs without the first", y.told(5), 15 * 14 / 2);
+        y.cut(9);
+        due("held no more", y.told(3), 9);
     }
 }
