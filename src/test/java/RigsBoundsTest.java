@@ -108,6 +108,24 @@ public final class RigsBoundsTest extends Bounds {
         due("9 is left", x.rig(), 9);
     }
 
+    static void promise18ThreadsThatFitNoneOfAnotherSpar() {
+        // Of spar 0, thread 2 crosses 1, the only one of spar 1; threads 0 and 3 do not.
+        NeckShip x = made(m -> {
+            m.spar(0, 30, 30, 1, -1);
+            m.spar(0, 40, 30, 1, 1);
+            m.thread(31, 0, 1);
+            m.thread(25, 1, 10);
+            m.thread(45, 0, 10);
+            m.thread(32, 0, 1);
+        });
+        due("1 and 2 cross", x.cross(1, 2), 1);
+        due("one that fits, then one that does not", x.rig(), 3);
+        x.cut(0);
+        due("one that does not, then one that fits", x.rig(), 2 + 8);
+        x.cut(3);
+        due("one that does not", x.rig(), NONE);
+    }
+
     static void promise18OfSparsUpToo() {
         NeckShip x = made(m -> apart(m, 3));
         for (int s = 0; s < 3; s++) {

@@ -323,6 +323,8 @@ public final class ThreadsBoundsTest extends Bounds {
         due("crosswise over all the hull", crossOf(-20, 50, 60, 70, 0, 60), 1);
         due("the one is above all along", crossOf(-20, 50, 1, 70, 0, 60), 0);
         due("close to a hole", crossOf(-20, 50, 1, -19, 0, 60), 1);
+        due("both nearly flat", crossOf(-5, 40, 1, 0, 20, 1), 1);
+        due("both nearly flat, one above all along", crossOf(-5, 20, 1, 0, 40, 1), 0);
     }
 
     static void promise12WholeOrCut() {
