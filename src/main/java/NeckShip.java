@@ -237,7 +237,7 @@ public final class NeckShip {
         if (spars.count == 0) {
             return STATE;
         }
-        return leastRig(0, 0);
+        return leastRig(threads, spars.count, 0, 0);
     }
 
     // ---- 4 sheets, parts
@@ -434,16 +434,16 @@ public final class NeckShip {
         return (measures[BEAM] + width - 1) / width;
     }
 
-    /** The least rig that has the chosen threads for all spars ahead of s; NONE. */
-    private int leastRig(int s, int chosen) {
-        if (s >= spars.count) {
+    /** The least rig of many spars that has the chosen threads for all of them ahead of s; NONE. */
+    private static int leastRig(Threads threads, int many, int s, int chosen) {
+        if (s >= many) {
             return chosen;
         }
         int raisers = threads.raisersOf(s);
         int least = NONE;
         for (int t = 0; t < threads.count; t++) {
             if (isIn(raisers, t) && (threads.crossing[t] & chosen) == 0) {
-                int found = leastRig(s + 1, chosen | (1 << t));
+                int found = leastRig(threads, many, s + 1, chosen | (1 << t));
                 if (found != NONE && (least == NONE || found < least)) {
                     least = found;
                 }

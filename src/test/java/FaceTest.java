@@ -113,5 +113,34 @@ public final class FaceTest {
         while (imports.find()) {
             check(imports.group(1).equals("java.util.Arrays"), "the file takes " + imports.group(1));
         }
+        checkRecursion(code);
+    }
+
+    /** A method that calls itself is private and static, and carries its depth as an argument. */
+    private static void checkRecursion(String code) {
+        Matcher heads = Pattern.compile("\\n +([\\w ]+?) (\\w+)\\(([^()]*)\\) \\{").matcher(code);
+        int methods = 0;
+        while (heads.find()) {
+            String name = heads.group(2);
+            if (name.equals("if") || name.equals("for") || name.equals("switch")) {
+                continue;
+            }
+            methods++;
+            if (bodyFrom(code, heads.end()).matches("(?s).*(?<![\\w.])" + name + "\\(.*")) {
+                check(heads.group(1).startsWith("private static ") && heads.group(3).contains("int "),
+                    name + " calls itself, and is not private and static");
+            }
+        }
+        check(methods > METHODS.size(), "only " + methods + " methods were found");
+    }
+
+    private static String bodyFrom(String code, int start) {
+        int open = 1;
+        int end = start;
+        while (open > 0 && end < code.length()) {
+            char c = code.charAt(end++);
+            open += c == '{' ? 1 : c == '}' ? -1 : 0;
+        }
+        return code.substring(start, end);
     }
 }
